@@ -7,6 +7,7 @@ public final class PlacingTest {
         cursor();
         cursorWithOtherStart();
         notPlaced();
+        lastLine();
         cursorStaysBehindNotPlaced();
         packed();
         alongColumns();
@@ -175,6 +176,26 @@ public final class PlacingTest {
         Check.is("layout", far.layout(), 3);
         Check.is("columns", far.tracks(0), 6);
         Check.is("rows", far.tracks(1), 12);
+    }
+
+    /** The last main line may be used, and nothing may end behind it. */
+    private static void lastLine() {
+        for (int how = 0; how < 4; how++) {
+            TrackGrid grid = columns("1 1", 2);
+            grid.flow(false, how % 2 == 1);
+            for (int row = 1; row < 12; row += 4) {
+                grid.item(1, 1, row, row == 9 ? 3 : 4);
+                grid.item(2, 1, row, row == 9 ? 3 : 4);
+            }
+            int column = how < 2 ? 0 : 2;
+            grid.item(column, 1, 0, 2);
+            grid.item(column, 1, 0, 1);
+            grid.item(0, 1, 12, 1);
+            Check.is("layout", grid.layout(), 8);
+            Check.lines(grid, 6, 0, 0);
+            Check.lines(grid, 7, 2, 12);
+            Check.lines(grid, 8, 1, 12);
+        }
     }
 
     private static void cursorStaysBehindNotPlaced() {

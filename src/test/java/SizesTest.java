@@ -10,7 +10,7 @@ public final class SizesTest {
         spreadBySpan();
         spreadMost();
         growing();
-        atMostSixteen();
+        growingAgain();
         shares();
         sharesSetAside();
         stretching();
@@ -108,6 +108,10 @@ public final class SizesTest {
         float rest = 100.1f - (1f / 10f) - 0.7f - 0f - 0f - gap - gap - gap;
         float part = rest / 3f;
         Check.sizes(odd, 0, 1f / 10f, 0.7f + part, part, part);
+        TrackGrid little = columns("min min", 2, 0f, 0f);
+        item(little, 1, 2, 0.5f, 0.5f);
+        little.layout();
+        Check.sizes(little, 0, 0.25f, 0.25f);
         // a limit below its base becomes the base: nothing grows beyond in (5)
         TrackGrid raised = columns("minmax(min,4) min", 2, 100f, 0f);
         item(raised, 1, 2, 20f, 20f);
@@ -173,12 +177,17 @@ public final class SizesTest {
         none.layout();
         Check.sizes(none, 0, 20f, 20f);
         // a track that gets all it may has its limit as base, not a sum beside it
-        TrackGrid exact = columns("minmax(0.1,0.7)", 1, 4000f, 0f);
+        TrackGrid exact = columns("minmax(0.009,0.115) minmax(0.01,0.06)", 2, 4000f, 0f);
         exact.layout();
-        Check.sizes(exact, 0, 7f / 10f);
+        Check.sizes(exact, 0, 115f / 1000f, 6f / 100f);
+        // of a little as of much
+        TrackGrid little = columns("minmax(0,9) minmax(1,9)", 2, 1.5f, 0f);
+        little.layout();
+        Check.sizes(little, 0, 0.25f, 1.25f);
     }
 
-    private static void atMostSixteen() {
+    /** What rounding leaves is given again. */
+    private static void growingAgain() {
         TrackGrid grid = columns("repeat(7,minmax(0,9999))", 7, 4096f, 0f);
         grid.layout();
         float base = 0f;
@@ -238,9 +247,13 @@ public final class SizesTest {
         TrackGrid none = columns("minmax(5,1fr) 1fr", 2, 3f, 0f);
         none.layout();
         Check.sizes(none, 0, 5f, 0f);
-        TrackGrid even = columns("minmax(50,1fr) 1fr", 2, 100f, 0f);
+        // a base that is just its share is not above it: the other one would get 18.75f
+        TrackGrid even = columns("minmax(25,0.25fr) 0.25fr", 2, 100f, 0f);
         even.layout();
-        Check.sizes(even, 0, 50f, 50f);
+        Check.sizes(even, 0, 25f, 25f);
+        TrackGrid little = columns("1fr 1fr", 2, 0.5f, 0f);
+        little.layout();
+        Check.sizes(little, 0, 0.25f, 0.25f);
     }
 
     private static void stretching() {
@@ -257,11 +270,18 @@ public final class SizesTest {
         behind.item(3, 1, 1, 1);
         behind.layout();
         Check.sizes(behind, 0, 4f, 4f, 4f);
-        TrackGrid little = columns("auto 5", 2, 3f, 0f);
+        TrackGrid none = columns("auto 5", 2, 3f, 0f);
+        none.put(0, 3);
+        none.layout();
+        Check.sizes(none, 0, 0f, 5f);
+        Check.isFloat("free", none.free(0), -2f);
+        TrackGrid little = columns("auto 5", 2, 5.5f, 0f);
         little.put(0, 3);
         little.layout();
-        Check.sizes(little, 0, 0f, 5f);
-        Check.isFloat("free", little.free(0), -2f);
+        Check.sizes(little, 0, 0.5f, 5f);
+        little.put(0, 2);
+        little.layout();
+        Check.isFloat("at the end", little.at(0, 0), 0.5f);
         // FREE is worked out anew, not said to be 0f
         TrackGrid anew = columns("auto auto auto 0.1", 4, 100f, 0f);
         anew.put(0, 3);

@@ -4,6 +4,7 @@ public final class TemplateTest {
         writing();
         counts();
         numbers();
+        repeats();
         places();
         placesOfTooMany();
         stays();
@@ -65,6 +66,13 @@ public final class TemplateTest {
         number("0000.000", 0f);
     }
 
+    private static void repeats() {
+        TrackGrid grid = new TrackGrid();
+        Check.template(grid, 0, "7 repeat(2,1 minmax(2,3)) 8 repeat(3,9)", 9);
+        grid.layout();
+        Check.sizes(grid, 0, 7f, 1f, 2f, 1f, 2f, 8f, 9f, 9f, 9f);
+    }
+
     private static void number(String text, float due) {
         TrackGrid grid = new TrackGrid();
         Check.template(grid, 0, text, 1);
@@ -80,7 +88,7 @@ public final class TemplateTest {
             "minmax", "minmax1", "maxm", "maxmin", "minmax(", "minmax()", "minmax(1)", "minmax(1fr,2)",
             "minmax(fit(1),2)", "minmax(min", "minmax(minm", "minmax(1,", "minmax(1,)", "minmax(1,2",
             "minmax(1,2f)", "minmax(1,2fr", "minmax(1,fit(2))", "minmax(1,auto", "minmax(1,minmax(", "minmax(1, 2)",
-            "minmax(1,2)3", "r", "repeat", "repeat(", "repeat(0,1)", "repeat(a", "repeat(2", "repeat(22,1)",
+            "minmax(1,2)3", "r", "r5", "repeat5", "repeat(2 5)", "repeat", "repeat(", "repeat(0,1)", "repeat(a", "repeat(2", "repeat(22,1)",
             "repeat(2)", "repeat(2,", "repeat(2,)", "repeat(2,1", "repeat(2,1 )", "repeat(2,1  2)",
             "repeat(2, 1)", "repeat(2,repeat(2,1))", "repeat(2,1 repeat(2,1))", "repeat(2,1)2", "repeat(2,1))",
             "1)", "1,2", "repeat(1,1,2)", "AUTO", "Min", "1 2 x", "-1", "1-", "minmax(1,2) "
@@ -92,7 +100,7 @@ public final class TemplateTest {
             6, 6, 3, 3, 7, 7, 8, 8,
             7, 10, 10, 9, 9, 10,
             11, 12, 9, 13, 12, 9,
-            11, 1, 6, 7, 7, 7, 8, 8,
+            11, 1, 1, 6, 8, 6, 7, 7, 7, 8, 8,
             8, 9, 9, 10, 11, 11,
             9, 9, 11, 11, 11,
             1, 1, 10, 0, 0, 4, 0, 1, 12
