@@ -2,8 +2,24 @@
 final class Check {
     private static int wrong = 0;
     private static int asked = 0;
+    private static String sentence = "";
 
     private Check() {
+    }
+
+    /** The test of one sentence of the document: it must ask something, and throw nothing of its own. */
+    static void sentence(String text, Runnable test) {
+        int before = asked;
+        sentence = "\"" + text + "\": ";
+        try {
+            test.run();
+        } catch (RuntimeException e) {
+            tell("the test", "throwing " + e, "nothing thrown");
+        }
+        if (asked == before) {
+            tell("the test", "nothing asked", "something asked");
+        }
+        sentence = "";
     }
 
     static void is(String what, long got, long due) {
@@ -89,6 +105,6 @@ final class Check {
                 break;
             }
         }
-        System.out.println("line " + line + ": " + what + " answered " + got + ", due is " + due);
+        System.out.println("line " + line + ": " + sentence + what + " answered " + got + ", due is " + due);
     }
 }

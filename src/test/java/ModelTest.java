@@ -5,6 +5,8 @@ import java.util.List;
 public final class ModelTest {
     private static final String[] PLAIN = {"auto", "min", "max"};
     private static final String SIGNS = "0123456789.(), afimnorutxpe";
+    private static final float[] EDGES = {0f, Float.MIN_VALUE, 7 * Float.MIN_VALUE, Float.MIN_NORMAL, 0.001f, 1f, Math.nextUp(1f),
+        4095f, Math.nextDown(4096f), 4096f};
     private long state = 20261116L;
 
     public static void main(String[] args) {
@@ -13,7 +15,7 @@ public final class ModelTest {
             test.texts();
         }
         for (int run = 0; run < 20000; run++) {
-            test.layouts(run);
+            test.layouts(run, run % 4 == 3);
         }
         Check.finish();
     }
@@ -116,7 +118,10 @@ public final class ModelTest {
         Check.is("place of " + text, grid.place(), Model.isTemplate(text) ? -1 : Model.placeOf(text));
     }
 
-    private float measure() {
+    private float measure(boolean edges) {
+        if (edges && below(2) == 0) {
+            return EDGES[below(EDGES.length)];
+        }
         switch (below(4)) {
             case 0:
                 return below(100);
@@ -129,23 +134,30 @@ public final class ModelTest {
         }
     }
 
-    private void layouts(int run) {
+    private float space(boolean edges) {
+        if (edges) {
+            return measure(true);
+        }
+        return below(4) == 0 ? 0f : below(4096) / (1f + below(4));
+    }
+
+    private void layouts(int run, boolean edges) {
         TrackGrid grid = new TrackGrid();
         Model model = new Model();
         for (int times = 1 + below(3); times > 0; times--) {
             for (int axis = 0; axis < 2; axis++) {
                 tellTemplate(grid, model, axis);
-                float space = below(4) == 0 ? 0f : below(4096) / (1f + below(4));
-                float gap = measure() / 50f;
+                float space = space(edges);
+                float gap = edges && below(3) == 0 ? measure(true) : measure(false) / 50f;
                 int how = below(4);
-                grid.room(axis, space, gap);
-                grid.put(axis, how);
+                Check.is("room", grid.room(axis, space, gap), true);
+                Check.is("put", grid.put(axis, how), true);
                 model.space[axis] = space;
                 model.gap[axis] = gap;
                 model.how[axis] = how;
             }
             for (int i = below(8); i > 0 && model.items.size() < 10; i--) {
-                tellItem(grid, model);
+                tellItem(grid, model, edges);
             }
             model.columns = below(2) == 0;
             model.packed = below(2) == 0;
@@ -164,7 +176,7 @@ public final class ModelTest {
         Check.template(grid, axis, text, model.template.get(axis).size());
     }
 
-    private void tellItem(TrackGrid grid, Model model) {
+    private void tellItem(TrackGrid grid, Model model, boolean edges) {
         int[] start = new int[2];
         int[] span = new int[2];
         int reach = below(5) == 0 ? 12 : 5;
@@ -177,8 +189,8 @@ public final class ModelTest {
         int number = grid.item(start[0], span[0], start[1], span[1]);
         model.items.add(item);
         for (int axis = 0; axis < 2; axis++) {
-            item.least[axis] = measure();
-            item.most[axis] = Math.min(4096f, item.least[axis] + measure());
+            item.least[axis] = measure(edges);
+            item.most[axis] = Math.min(4096f, item.least[axis] + measure(edges));
             Check.is("need", grid.need(number, axis, item.least[axis], item.most[axis]), true);
         }
     }
