@@ -1,3 +1,5 @@
+import java.util.function.Supplier;
+
 /** Counts and prints the answers of a test that are not the ones that are due. */
 final class Check {
     private static int wrong = 0;
@@ -38,6 +40,23 @@ final class Check {
         asked++;
         if (Float.floatToIntBits(got) != Float.floatToIntBits(due)) {
             tell(what, Float.toString(got), Float.toString(due));
+        }
+    }
+
+    static void isText(String what, String got, String due) {
+        asked++;
+        if (!got.equals(due)) {
+            tell(what, got, due);
+        }
+    }
+
+    /** What a call answers, floats with their bits, or what it throws, as a text. */
+    static String answer(Supplier<Object> call) {
+        try {
+            Object got = call.get();
+            return got instanceof Float ? got + " (" + Integer.toHexString(Float.floatToIntBits((Float) got)) + ")" : got.toString();
+        } catch (RuntimeException e) {
+            return "throws." + e.getClass().getSimpleName();
         }
     }
 

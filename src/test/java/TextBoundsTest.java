@@ -185,9 +185,9 @@ public final class TextBoundsTest {
     }
 
     private static void sidesOfMinmax() {
-        TrackGrid grid = new TrackGrid();
         String[] plain = {"3", "2.75", "auto", "min", "max"};
         for (String low : plain) {
+            TrackGrid grid = new TrackGrid();
             for (String high : plain) {
                 Check.template(grid, 0, "minmax(" + low + "," + high + ")", 1);
             }
@@ -196,6 +196,7 @@ public final class TextBoundsTest {
             Check.refused(grid, 0, "minmax(" + low + ",1,1)", 9 + low.length());
             Check.refused(grid, 0, "minmax(" + low + ")", 7 + low.length());
         }
+        TrackGrid grid = new TrackGrid();
         Check.refused(grid, 0, "minmax(1fr,1)", 8);
         Check.refused(grid, 0, "minmax(fit(1),1)", 7);
         Check.refused(grid, 0, "minmax(,1)", 7);
